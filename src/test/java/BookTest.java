@@ -154,6 +154,10 @@ public final class BookTest {
         fault("n", 1, 0);
         fault("  heron a;", 1, 2);
         fault(";", 1, 0);
+        fault("motion a a;", 1, 0);
+        fault("notiom a a;", 1, 0);
+        fault("notions a a;", 1, 0);
+        fault("dack 1;", 1, 0);
         fault("-", 1, 0);
         fault("7", 1, 0);
         fault("Notion a a;", 1, 0);
