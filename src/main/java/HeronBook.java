@@ -115,7 +115,7 @@ public final class HeronBook {
             return held.settings[what - LACK];
         }
         if (what >= 20 && what < 20 + TRAITS) {
-            return held.weightOf(what - 20);
+            return held.weights[what - 20];
         }
         return NONE;
     }
@@ -491,13 +491,17 @@ public final class HeronBook {
     /** THE BOOK: what a text tells, and what follows from that alone. */
     private static final class Book {
         static final int HEAVIEST = 9;
+        /** TRAITS are weighed in four groups of six, and a group has 64 sets. */
+        static final int GROUP = 6;
+        static final int SETS_OF_GROUP = 1 << GROUP;
 
         /** By NOTIONS .. HEARERS. */
         final int[] counts = new int[5];
         /** By LACK .. NOTES, less LACK. */
         final int[] settings = new int[5];
-        /** For each weight the TRAITS that have it: so a sum of weights needs no look at each TRAIT. */
-        final int[] traitsByWeight = new int[HEAVIEST + 1];
+        final int[] weights = new int[TRAITS];
+        /** What each set of each group weighs, so that no sum needs a look at every TRAIT. */
+        private final int[] groupSums = new int[TRAITS / GROUP * SETS_OF_GROUP];
         final int[] notionTraits = new int[MOST_NOTIONS];
         final int[] wordTraits = new int[MOST_WORDS];
         final int[] placeNotion = new int[MOST_PLACES];
@@ -510,6 +514,7 @@ public final class HeronBook {
 
         Book() {
             clear();
+            sumGroups();
         }
 
         void clear() {
@@ -519,14 +524,14 @@ public final class HeronBook {
             settings[BORROW - LACK] = 5;
             settings[LONG - LACK] = 1;
             settings[NOTES - LACK] = 6;
-            Arrays.fill(traitsByWeight, 0);
-            traitsByWeight[1] = ALL_TRAITS;
+            Arrays.fill(weights, 1);
         }
 
         void copyFrom(Book other) {
             System.arraycopy(other.counts, 0, counts, 0, counts.length);
             System.arraycopy(other.settings, 0, settings, 0, settings.length);
-            System.arraycopy(other.traitsByWeight, 0, traitsByWeight, 0, traitsByWeight.length);
+            System.arraycopy(other.weights, 0, weights, 0, TRAITS);
+            sumGroups();
             System.arraycopy(other.notionTraits, 0, notionTraits, 0, MOST_NOTIONS);
             System.arraycopy(other.wordTraits, 0, wordTraits, 0, MOST_WORDS);
             System.arraycopy(other.placeNotion, 0, placeNotion, 0, MOST_PLACES);
@@ -563,22 +568,30 @@ public final class HeronBook {
         }
 
         void weigh(int set, int weight) {
-            for (int w = 0; w <= HEAVIEST; w++) {
-                traitsByWeight[w] &= ~set;
+            for (int t = 0; t < TRAITS; t++) {
+                if ((set >> t & 1) != 0) {
+                    weights[t] = weight;
+                }
             }
-            traitsByWeight[weight] |= set;
         }
 
-        int weightOf(int trait) {
-            return weightsOf(1 << trait);
+        /** A set weighs what it weighs without its highest TRAIT, and what this one weighs. */
+        private void sumGroups() {
+            for (int t = 0; t < TRAITS; t++) {
+                int none = t / GROUP * SETS_OF_GROUP;
+                int highest = 1 << t % GROUP;
+                for (int rest = 0; rest < highest; rest++) {
+                    groupSums[none + highest + rest] = groupSums[none + rest] + weights[t];
+                }
+            }
         }
 
         int weightsOf(int set) {
-            int sum = 0;
-            for (int w = 1; w <= HEAVIEST; w++) {
-                sum += w * Integer.bitCount(set & traitsByWeight[w]);
-            }
-            return sum;
+            int last = SETS_OF_GROUP - 1;
+            return groupSums[set & last]
+                + groupSums[SETS_OF_GROUP + (set >> GROUP & last)]
+                + groupSums[2 * SETS_OF_GROUP + (set >> 2 * GROUP & last)]
+                + groupSums[3 * SETS_OF_GROUP + (set >> 3 * GROUP & last)];
         }
 
         int traitsOfNotionAt(int p) {
@@ -1204,16 +1217,24 @@ public final class HeronBook {
 
         /** Tells the next LACK in a NOTE; false if there is none of a weight above 0. */
         boolean mendOnce() {
-            for (int weight = Book.HEAVIEST; weight > 0; weight--) {
-                for (int p = 0; p < book.counts[PLACES]; p++) {
-                    int open = untoldLacks(p) & book.traitsByWeight[weight];
-                    if (open != 0) {
-                        notes[p] |= open & -open;
-                        return true;
+            int heaviest = 0;
+            int place = 0;
+            int trait = 0;
+            for (int p = 0; p < book.counts[PLACES]; p++) {
+                int open = untoldLacks(p);
+                for (int t = 0; t < TRAITS && open != 0; t++) {
+                    if ((open >> t & 1) != 0 && book.weights[t] > heaviest) {
+                        heaviest = book.weights[t];
+                        place = p;
+                        trait = t;
                     }
                 }
             }
-            return false;
+            if (heaviest == 0) {
+                return false;
+            }
+            notes[place] |= 1 << trait;
+            return true;
         }
 
         private int untoldLacks(int p) {
@@ -1320,9 +1341,10 @@ public final class HeronBook {
         private void obeyInside(Rendering now, int tie, int level, int later) {
             int[] goes = goesWith[level * SET_OF_BEST + later];
             for (int a = 0; a < options; a++) {
+                int has = now.traitsOfOption(a);
+                boolean borrowed = now.isBorrowedOption(a);
                 for (int b = 0; b < options; b++) {
-                    boolean bothBorrowed = now.isBorrowedOption(a) && now.isBorrowedOption(b);
-                    if (book.wouldClash(tie, now.traitsOfOption(a), now.traitsOfOption(b), bothBorrowed)) {
+                    if (book.wouldClash(tie, has, now.traitsOfOption(b), borrowed && now.isBorrowedOption(b))) {
                         goes[a] &= ~(1 << b);
                     }
                 }
