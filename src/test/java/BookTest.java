@@ -73,6 +73,16 @@ public final class BookTest {
         check.due("book in pieces", x.book(), 2);
         check.due("its traits", x.traits(0, 0), 15);
         check.due("its place", x.traits(2, 0), 4);
+        // what was cut off is not read, though it stood right behind
+        Check.type(x, "lack 12;");
+        x.end(6);
+        check.due("a cut number", x.book(), HeronBook.NONE);
+        check.due("its KIND", x.fault(0), 1);
+        check.due("its PLACE", x.fault(1), 6);
+        Check.type(x, "notion ab cd;");
+        x.end(8);
+        x.book();
+        check.due("a cut word", x.fault(1), 8);
         // a full tape can be read
         StringBuilder full = new StringBuilder("lack 3;");
         while (full.length() < 1200) {
