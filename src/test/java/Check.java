@@ -2,12 +2,20 @@
 final class Check {
     private int wrong;
     private int asked;
+    private int sentences;
+    private String sentence = "";
+
+    /** What comes behind it tests these words of the document. */
+    void sentence(String words) {
+        sentence = "[" + words + "] ";
+        sentences++;
+    }
 
     void due(String call, long got, long want) {
         asked++;
         if (got != want) {
             wrong++;
-            System.out.println(call + " answered " + got + ", due is " + want);
+            System.out.println(sentence + call + " answered " + got + ", due is " + want);
         }
     }
 
@@ -17,7 +25,7 @@ final class Check {
 
     /** Ends the program with exit code 1 if an answer was wrong. */
     void close(String test) {
-        System.out.println(test + ": " + asked + " answers, " + wrong + " wrong");
+        System.out.println(test + ": " + (sentences == 0 ? "" : sentences + " sentences, ") + asked + " answers, " + wrong + " wrong");
         if (wrong != 0) {
             System.exit(1);
         }
