@@ -338,6 +338,15 @@ public final class ChoiceEdgesTest {
         check.due("at 0, both told", x.bears(0, 3), 0);
         check.due("it LACKS them all the same", x.bears(0, 1), 3);
         check.due("of all", x.lost(), 4);
+        check.sentence("LOST: the weights of each TRAIT");
+        StringBuilder weights = new StringBuilder("notion n " + ALL + ";word w -;");
+        for (int t = 0; t < 24; t++) {
+            weights.append("place n ").append(ALL.charAt(t)).append(";weight ").append(ALL.charAt(t)).append(' ').append((t * 7 + t / 6) % 10).append(';');
+        }
+        HeronBook each = Check.of(weights.toString());
+        for (int t = 0; t < 24; t++) {
+            check.due("TRAIT " + t + " alone is lacking", each.choose(t, 0, 0, 0, 0), 2 * ((t * 7 + t / 6) % 10));
+        }
         check.sentence("LOST: long for each word behind the first");
         HeronBook y = Check.of("notion n -;word w -;word v -;place n -;long 9;");
         check.due("one", y.choose(0, 0, 0, 0, 0), 0);

@@ -271,6 +271,14 @@ public final class HearerEdgesTest {
         check.due("it alone", full.gives(3, 22, 19, 0), 0);
         check.due("it alone", full.gives(3, 23, 18, 0), 0);
         check.due("what it was", full.gives(3, 23, 19, 7), 7);
+        for (int v = 0; v < 4; v++) {
+            check.due("a mark", full.gives(v, 1, 0, 10 + v), 0);
+            check.due("another PLACE and word", full.gives(v, 0, 1, 20 + v), 0);
+        }
+        for (int v = 0; v < 4; v++) {
+            check.due("a mark", full.gives(v, 1, 0, 0), 10 + v);
+            check.due("another PLACE and word", full.gives(v, 0, 1, 0), 20 + v);
+        }
         check.sentence("gives: 0 at first");
         for (int v = 0; v < 4; v++) {
             check.due("of a new one", full.gives(v, 0, 0, 0), 0);
@@ -325,6 +333,10 @@ public final class HearerEdgesTest {
         check.due("word 0 in 21", Twins.rich().moves(0, 21, 0), 4);
         check.due("word 1 in 5", Twins.rich().moves(1, 5, 0), 4);
         check.due("word 1 in 19, below one of another word", Twins.rich().moves(1, 19, 0), 4);
+        HeronBook once = Check.of("word w a;");
+        check.due("the first of all", once.moves(0, 5, 0), 1);
+        check.due("below it", once.moves(0, 4, 0), RANGE);
+        check.due("at it", once.moves(0, 5, 0), 2);
         check.sentence("moves: RANGE: no such TRAITS");
         for (int bit = 24; bit < 32; bit++) {
             int set = 1 << bit;
@@ -377,6 +389,11 @@ public final class HearerEdgesTest {
         for (int[] u : until) {
             check.due("until(" + u[0] + ")", x.until(u[0]), u[1]);
         }
+        HeronBook early = Check.of("notion n a;word w a;place n a;");
+        early.choose(0, 0, 0, 0, 0);
+        early.moves(0, 1, 0);
+        check.due("the year 1", early.until(0), 1);
+        check.due("turned in it", early.turned(1), 1);
         check.sentence("until: RANGE: a number below 0");
         for (int n : new int[] {-1, -2, MIN}) {
             refused("until(" + n + ")", y -> y.until(n), RANGE);

@@ -32,7 +32,9 @@ public final class LaughEdgesTest {
         }
         HeronBook x = book("word w a;", 1);
         x.choose(0, 0, 0, 0, 0);
+        check.due("STEP -1, the latest being 0", x.heard(-1, 0, 0, 1), RANGE);
         check.due("STEP 0", x.heard(0, 0, 0, 1), 0);
+        check.due("right at STEP -1", x.right(-1, 0, 1), RANGE);
         check.due("STEP 999", x.heard(999, 0, 0, 1), 1);
         check.due("STEP 999 again", x.heard(999, 0, 0, 1), 2);
         check.due("STEP 998", x.heard(998, 0, 0, 1), RANGE);

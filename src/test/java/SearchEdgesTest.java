@@ -119,6 +119,94 @@ public final class SearchEdgesTest {
         check.due("NOTES stay", other.count(1), 0);
     }
 
+    private static void bestOptions() {
+        check.sentence("best: BORROWED has no TRAITS");
+        HeronBook x = Check.of("notion n abx;word w c;place n abx;lack 1;borrow 1;add 4;");
+        check.due("w loses 7, BORROWED 4", x.best(1), 4);
+        plain(x, 0, NONE);
+        HeronBook y = Check.of("notion n a;word w b;place n a;borrow 2;");
+        check.due("w loses 3, BORROWED 4", y.best(1), 3);
+        plain(y, 0, 0);
+        HeronBook z = Check.of("notion n a;word w ax;place n a;place n -;tie 0 1 a;add 9;borrow 0;lack 1;");
+        z.choose(1, 0, 0, 0, 0);
+        check.due("BORROWED doesn't go with a", z.best(1), 18);
+        plain(z, 0, 0);
+        check.sentence("best: what a TIE with a PLACE outside forbids");
+        HeronBook tied = Check.of("notion n abc;word w a;word v b;word u bc;word t abc;place n -;place n a;tie 0 1 b;tie 1 0 c;");
+        tied.choose(0, 0, 2, 0, 0);
+        check.due("w and v would CLASH, t doesn't", tied.best(2), 0);
+        plain(tied, 1, 3);
+        HeronBook one = Check.of("notion n abc;word w a;word v b;word u bc;word t abc;place n -;place n -;tie 1 0 b;");
+        one.choose(0, 0, 1, 0, 0);
+        check.due("w alone would CLASH", one.best(2), 0);
+        plain(one, 1, 1);
+        check.sentence("best: less by 1 is less");
+        HeronBook less = Check.of("notion n a;word w b;word v -;place n -;place n -;place n -;");
+        check.due("one PLACE", less.best(1), 0);
+        plain(less, 0, 1);
+        check.due("three PLACES", less.best(7), 0);
+        plain(less, 2, 1);
+        HeronBook foreign = Check.of("notion n a;word w bc;place n -;borrow 1;");
+        check.due("BORROWED 1, w 2", foreign.best(1), 1);
+        plain(foreign, 0, NONE);
+    }
+
+    /** 24 PLACES, 20 words of which the last alone has x, 20 TIES of x: the most of all. */
+    private static HeronBook fullOfX() {
+        StringBuilder text = new StringBuilder("notion n x;notion m a;");
+        for (int w = 0; w < 20; w++) {
+            text.append("word ").append((char) ('a' + w)).append(w == 19 ? " x;" : " b;");
+        }
+        text.append("place n -;".repeat(24));
+        for (int t = 0; t < 20; t++) {
+            text.append("tie ").append(t).append(' ').append(t + 4).append(" x;");
+        }
+        return Check.of(text.append("hearer h x -;hearer g b -;borrow 9;").toString());
+    }
+
+    private static void theMostOfAll() {
+        check.sentence("best: four PLACES, 20 words and BORROWED, 20 TIES");
+        HeronBook x = fullOfX();
+        check.due("four that are tied", x.best(1 | 1 << 4 | 1 << 8 | 1 << 12), 0);
+        for (int p = 0; p <= 12; p += 4) {
+            plain(x, p, 19);
+        }
+        check.due("the last four", x.best(0xf00000), 0);
+        plain(x, 23, 19);
+        check.due("one between two of them", x.best(1 << 16), 0);
+        plain(x, 16, 19);
+        x.choose(19, 3, 0, 0, 0);
+        check.due("the last TIE: BORROWED with BORROWED", x.best(1 << 23), 18);
+        plain(x, 23, NONE);
+        check.sentence("exchange: 24 PLACES, 20 words and BORROWED, 20 TIES");
+        HeronBook y = fullOfX();
+        for (int p = 0; p < 24; p++) {
+            y.choose(p, 2, 0, 19, p % 2 == 0 ? 1 : NONE);
+        }
+        check.due("all put to the last word", y.exchange(), 0);
+        check.due("no CLASH", y.clashes(), 0);
+        plain(y, 0, 19);
+        plain(y, 23, 19);
+        check.sentence("one, price, swap, on with 20 words");
+        check.due("one: the last", y.one(0), 19);
+        check.due("its price", y.price(0), 0);
+        check.due("swap: the least", y.swap(0), 0);
+        check.due("on: the last is said", y.on(0, 0, 0), 0);
+        check.sentence("words of a BOOK that was are none of the next one");
+        HeronBook next = fullOfX();
+        next.choose(0, 0, 19, 0, 0);
+        check.due("another BOOK", Check.read(next, "notion n a;notion m x;word w a;place m x;place n a;tie 0 1 -;hearer h x -;hearer g ax -;borrow 99;"), 9);
+        check.due("best", next.best(1), 3);
+        plain(next, 0, 0);
+        check.due("one", next.one(1), 0);
+        check.due("swap", next.swap(1), NONE);
+        next.note(0, 1 << 23);
+        check.due("told back", next.back(0, 0), 1);
+        check.due("said by w: a is heard", next.on(0, 1, 0), 0);
+        next.choose(0, 3, 0, 0, 0);
+        check.due("exchange", next.exchange(), 1);
+    }
+
     /** A row of PLACES in which each round of EXCHANGES puts one more, from the last one on. */
     private static HeronBook row(int places) {
         StringBuilder text = new StringBuilder("notion n abc;word w a;word v bc;" + "place n b;".repeat(places - 1) + "place n bc;");
@@ -241,6 +329,12 @@ public final class SearchEdgesTest {
         check.due("its price", x.price(0), 2);
         check.due("of the other", x.one(1), 1);
         x.choose(0, 3, 0, 0, 0);
+        check.sentence("PRICE: the least LOST (PLAIN) at each of them");
+        HeronBook one = Check.of("notion n a;word w b;place n a;place n a;borrow 0;lack 3;");
+        check.due("one word: nothing is less", one.price(0), 0);
+        HeronBook two = Check.of("notion n ab;notion m x;word w a;word v bc;place n ab;place m x;place n b;place n a;borrow 0;lack 3;add 1;");
+        check.due("w: 3, 3, 0; v: 4, 1, 4", two.one(0), 0);
+        check.due("less than 3, 1, 0", two.price(0), 2);
         check.due("a CHOICE doesn't matter", x.one(0), 0);
         check.due("nor for the price", x.price(0), 2);
     }
@@ -303,6 +397,10 @@ public final class SearchEdgesTest {
         check.due("at 0", light.bears(0, 4), 4);
         check.due("at 1", light.bears(1, 4), 4);
         check.due("nothing at all", lacking("weight abcd 0;").mend(99), 0);
+        HeronBook onlyA = Check.of("notion n a;place n a;");
+        onlyA.choose(0, 3, 0, 0, 0);
+        check.due("TRAIT 0 alone", onlyA.mend(1), 1);
+        check.due("its NOTE", onlyA.bears(0, 4), 1);
         check.sentence("MEND: the greatest weight; of alike ones of the least PLACE, then the least TRAIT");
         HeronBook x = lacking("notes 99;weight d 2;");
         int[] at0 = {8, 8, 9, 11, 15, 15, 15};
@@ -326,6 +424,8 @@ public final class SearchEdgesTest {
         bestSets();
         bestNone();
         bestRows();
+        bestOptions();
+        theMostOfAll();
         exchangeRounds();
         hundredForAClash();
         oneAndPrice();

@@ -187,9 +187,10 @@ final class Twins {
         each("gives 3", x.told(1) - 1, w -> x.gives(3, 0, w, 0));
         each("moves in 9", x.told(1) - 1, w -> x.moves(w, 9, 0));
         each("moves in 19", x.told(1) - 1, w -> x.moves(w, 19, 0));
-        each("right of any", 3, k -> x.right(7, k, 1));
+        note("choose", x.choose(0, 3, 0, 0, 0));
         note("heard at an earlier STEP", x.heard(6, 0, 0, 1));
         note("heard at the latest STEP", x.heard(7, 0, 0, 1));
+        each("how often put RIGHT", x.count(3), k -> x.right(7, k, 1));
         for (int slot = 0; slot < 4; slot++) {
             int taken = x.take(slot);
             note("take " + slot, taken);
