@@ -410,6 +410,13 @@ public final class HearerEdgesTest {
         check.due("until(1)", zero.until(1), 0);
         check.due("until(2)", zero.until(2), NONE);
         check.due("lost() asks for no year", zero.lost(), 0);
+        HeronBook mended = Check.of("notion n a;word w -;place n a;");
+        mended.choose(0, 0, 0, 0, 0);
+        check.due("until(1) without a move", mended.until(1), 0);
+        mended.moves(0, 0, 1);
+        check.due("less is lost from year 0 on", mended.lostIn(0), 0);
+        check.due("until(0): never", mended.until(0), NONE);
+        check.due("lost() asks for no year", mended.lost(), 2);
         check.sentence("moves of one year: the later told one is; two that go back to what it was don't turn");
         HeronBook back = Check.of("notion n a;word w a;place n a;");
         back.choose(0, 0, 0, 0, 0);

@@ -285,6 +285,11 @@ public final class TextEdgesTest {
         sound("notion n a;word n a;hearer n a a;place n a;place n -;", 5);
         sound("notion n a;notion nn b;notion nnn c;notion m d;place nn b;place nnn c;", 6);
         sound("word ab a;word ac a;word bb a;word b a;word a a;", 5);
+        check.sentence("a name is the same one behind whatever blanks");
+        sound("notion n a;place\nn a;place  \n n a;", 3);
+        fault("notion n a;notion\nn a;", TWICE, 18);
+        fault("word\nn a;word n a;", TWICE, 14);
+        fault("hearer n a a;hearer \nn a a;", TWICE, 21);
         check.sentence("a name of THE BOOK that was is none of the next one");
         HeronBook x = Check.of("notion n a;word n a;hearer n a a;lack 3;add 3;borrow 3;long 3;notes 3;");
         check.due("again", Check.read(x, "notion n a;word n a;hearer n a a;lack 3;add 3;borrow 3;long 3;notes 3;"), 8);
